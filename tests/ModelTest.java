@@ -1087,6 +1087,7 @@ public final class ModelTest {
 
     private int run() {
         int most = 2 + random.nextInt(7);
+        int mends = random.nextInt(5);
         for (int i = random.nextInt(most); i > 0; i--) {
             check("thing", random.nextInt(6), random.nextInt(10), random.nextInt(10));
         }
@@ -1098,8 +1099,9 @@ public final class ModelTest {
                 tellJumps();
             } else if (sort == 3) {
                 tellOrder();
-            } else if (sort < 8 && !model.s.broken.isEmpty()) {
-                check("mends", model.s.broken.iterator().next());
+            } else if (sort < 4 + mends && !model.s.broken.isEmpty()) {
+                List<Integer> broken = new ArrayList<>(model.s.broken);
+                check("mends", broken.get(random.nextInt(broken.size())));
             } else {
                 String[] form = CALLS_BY_NAME[random.nextInt(CALLS_BY_NAME.length)].split(" ");
                 String sorts = form.length > 1 ? form[1] : "";

@@ -884,10 +884,9 @@ public final class RivetedSisters {
         int which = NONE;
         int value = NONE;
 
-        Best none() {
+        void none() {
             which = NONE;
             value = NONE;
-            return this;
         }
 
         void offerLeast(int candidate, int measure) {
@@ -1147,7 +1146,10 @@ public final class RivetedSisters {
         Best quietestTap(Wire wire, int hearer) {
             best.none();
             for (int thing = 0; thing < wire.things; thing++) {
-                for (int blow = 1; thing != hearer && blow <= MOST_BLOW; blow++) {
+                if (thing == hearer) {
+                    continue;
+                }
+                for (int blow = 1; blow <= MOST_BLOW; blow++) {
                     wave.strike(wire, thing, blow);
                     if (wave.isHeardBy(hearer) && wave.victims == 0) {
                         best.offerLeast(100 * thing + blow, wave.hearerCount() - 2);
@@ -1162,14 +1164,23 @@ public final class RivetedSisters {
             leastDropping = NONE;
             droppers = 0;
             for (int thing = 0; thing < wire.things; thing++) {
-                for (int blow = 1; !wire.isBroken(thing) && blow <= MOST_BLOW; blow++) {
+                if (wire.isBroken(thing)) {
+                    continue;
+                }
+                for (int blow = 1; blow <= MOST_BLOW; blow++) {
                     wave.strike(wire, thing, blow);
                     if (row.tellsJumps(wave, wire)) {
-                        droppings++;
-                        droppers |= 1 << thing;
-                        leastDropping = leastDropping == NONE ? 100 * thing + blow : leastDropping;
+                        countDropping(thing, blow);
                     }
                 }
+            }
+        }
+
+        private void countDropping(int thing, int blow) {
+            droppings++;
+            droppers |= 1 << thing;
+            if (leastDropping == NONE) {
+                leastDropping = 100 * thing + blow;
             }
         }
 
@@ -1352,10 +1363,13 @@ public final class RivetedSisters {
             int asItIs = wave.hearerCount();
             mind.copy(wire);
             for (int mended = 0; mended < wire.things; mended++) {
+                if (!wire.isBroken(mended)) {
+                    continue;
+                }
                 mind.broken = wire.broken;
                 mind.mend(mended);
                 wave.strike(mind, thing, blow);
-                if (wire.isBroken(mended) && wave.hearerCount() > asItIs) {
+                if (wave.hearerCount() > asItIs) {
                     best.offerMost(mended, wave.hearerCount());
                 }
             }
