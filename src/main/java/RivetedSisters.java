@@ -813,9 +813,13 @@ public final class RivetedSisters {
         /** Goes one way; each way begins at the THING that is struck itself. */
         private void spread(Wire wire, int start, int step, int blow) {
             int rest = blow;
-            for (int place = start; place >= 0 && place < wire.things; place += step) {
+            for (int passed = 0; passed < wire.things; passed++) {
+                int place = start + step * passed;
+                if (rest <= 0 || wire.noThing(place) != FINE) {
+                    return;
+                }
                 int thing = wire.at[place];
-                if (rest <= 0 || wire.isBroken(thing)) {
+                if (wire.isBroken(thing)) {
                     return;
                 }
                 int kind = wire.kinds[thing];
