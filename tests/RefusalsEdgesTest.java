@@ -231,7 +231,7 @@ public final class RefusalsEdgesTest {
         EDGES.refused("no THINGS: more numbers than THINGS", bare, "who 0", STATE);
     }
 
-    /** With all places full the last of each is a THING, a PLACE, and all questions are answered. */
+    /** With all places full the last THING and PLACE are taken, and all questions answered. */
     private static void eightThings() {
         Supplier<Edges.Subject> full = EDGES.behind(EIGHT);
         String[] calls = {"thingOf 7 6", "place 7 0", "gets 7 60 7 1", "gets 0 60 7 0",
